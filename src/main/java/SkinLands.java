@@ -163,7 +163,7 @@ public final class SkinLands {
         int due = family.shownTogether(family.everyone());
         int best = family.everyone();
         for (int some = 0; some < family.everyone(); some++) {
-            if (family.shownTogether(some) == due && isFewer(some, best)) best = some;
+            if (isFewer(some, best) && family.shownTogether(some) == due) best = some;
         }
         return best;
     }

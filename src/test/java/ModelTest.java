@@ -118,7 +118,11 @@ public final class ModelTest {
             case "feed": set(a, (int) luck, edge(1, 4)); break;
             case "hold": set(a, draw(10), draw(9) - 1); break;
             case "as": set(a, draw(10), draw(7)); break;
-            case "sheet": set(a, draw(4), new int[] {8, 16, 32, 32, 0}[draw(5)], draw(2) == 0 ? draw(9) : edge(0, 40)); break;
+            case "sheet": {
+                int[] bits = {8, 16, 32, 32, 0};
+                set(a, draw(4), bits[draw(5)], draw(2) == 0 ? draw(9) : edge(0, 40));
+                break;
+            }
             case "write": set(a, draw(4), draw(9), draw(3) == 0 ? (int) luck : draw(70000) - 1000); break;
             case "copy": set(a, draw(4), draw(5), draw(4), draw(5), draw(5)); break;
             case "load": case "judge": set(a, draw(4)); break;

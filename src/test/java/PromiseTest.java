@@ -90,6 +90,7 @@ public final class PromiseTest {
         tear();
         count();
         status();
+        fullFamily();
         farArguments();
         checks.end();
     }
@@ -611,7 +612,9 @@ public final class PromiseTest {
         x.change(2, 5, 0);
         due("LAID or not", x.hide(0, 3), set(1, 2));
         due("nothing changes", x.now(3), set(0, 1, 3, 4));
-        begin("19 hide");
+        beginKin("19 hide: the fewest, though not the least set", 2, 4, 6);
+        due("2 others", x.hide(0, 2), set(2));
+        begin("19 hide: an UNCLE");
         x.kin(2, set(7));
         due("15 others", x.hide(7, 15), set(0));
         due("all but", x.hide(6, 1), NONE);
@@ -921,6 +924,27 @@ public final class PromiseTest {
         read("kin;;kin", -5);
         read("  aunt", -3);
         read("kins", -1);
+        read("kinz", -1);
+        read("akin", -1);
+        read("xin", -1);
+        read("kix", -1);
+        read("xousin", -1);
+        read("xncle", -1);
+        read("xhild", -1);
+        read("xaby", -1);
+        read("xdopted", -1);
+        read("xailor", -1);
+        read("kin xf 0", -5);
+        read("kin xark 0", -5);
+        read("kin xurn 0", -5);
+        read("kin xp", -5);
+        read("kin;xged 0 0", -5);
+        read("kin{", -4);
+        read("kin`", -4);
+        read("kin mark 1/", -11);
+        read("kin mark 1:", -11);
+        read("kin turn", -9);
+        read("kin turn up", -10);
         read("Kin", -1);
         read("kin\tup", -4);
         read("kin.", -4);
@@ -1094,6 +1118,8 @@ public final class PromiseTest {
         due("a sum that wraps around", x.copy(0, Integer.MAX_VALUE, 1, 0, 2), BEYOND);
         due("a sum that wraps around", x.copy(0, 1, 1, 0, Integer.MAX_VALUE), BEYOND);
         due("a sum that wraps around", x.copy(0, 0, 1, Integer.MAX_VALUE, 2), BEYOND);
+        due("other way round", x.copy(1, 0, 0, 0, 3), 3);
+        sheetOf(0, 16, 1, 2, 3, 4, 5);
         due("none, from the end to the end", x.copy(0, 5, 1, 3, 0), 0);
         due("two", x.copy(0, 3, 1, 1, 2), 2);
         dueMarks(1, 0, 4, 5);
@@ -1102,6 +1128,9 @@ public final class PromiseTest {
         sheetOf(0, 16, 1, 2, 3, 4, 5);
         due("onto itself, down", x.copy(0, 1, 0, 0, 4), 4);
         dueMarks(0, 2, 3, 4, 5, 5);
+        sheetOf(2, 16, 9, 8, 7, 6, 5);
+        due("all of it", x.copy(2, 0, 0, 0, 5), 5);
+        dueMarks(0, 9, 8, 7, 6, 5);
     }
 
     private static void dueMarks(int s, int... marks) {
@@ -1286,6 +1315,44 @@ public final class PromiseTest {
         due("a FAULT is no finding", x.status(-1), 23);
         x.odds(16, 0);
         due("a long, too", x.status(0), 3);
+    }
+
+    private static void fullFamily() {
+        begin("eight of them");
+        for (int k = 0; k < 8; k++) {
+            x.kin(5, k == 7 ? set(15) : set(k));
+            x.hold(k, k);
+        }
+        for (int what = 0; what < 7; what++) {
+            int[] due = {0, set(0, 1, 2, 3, 4, 5, 6, 15), ALL - set(0, 1, 2, 3, 4, 5, 6, 15), 255, 0, 8,
+                set(0, 1, 2, 3, 4, 6, 15)};
+            due("now(" + what + ")", x.now(what), due[what]);
+        }
+        due("who", x.who(5), 255);
+        due("common", x.common(6, 7), set(5));
+        due("cover", x.cover(), 255 - set(5));
+        due("hide", x.hide(0, 7), 255 - set(0, 5));
+        due("hide", x.hide(15, 8), NONE);
+        due("marry", x.marry(), 1);
+        due("when", x.when(11), 1);
+        due("known", x.known(1), set(0, 1, 2, 3, 4, 5, 6, 11, 15));
+        due("turnFor", x.turnFor(7, 1), 0);
+        due("shows", x.shows(7, 15), 200);
+        due("ahead", x.ahead(7, 2, 1), set(15, 11));
+        due("count(4)", x.count(4), 0);
+        due("go", x.go(1), set(0, 1, 2, 3, 4, 5, 6, 11, 15));
+        due("count(4)", x.count(4), 8);
+        due("count(7)", x.count(7), 8);
+        due("now(5)", x.now(5), 16);
+        x.image();
+        x.change(7, 2, 0);
+        x.undo();
+        due("of the last one", x.of(7, 2), set(15, 11));
+        sheetOf(0, 32, 1, 2, 3, 4, 5, 6, 7, 8, 9);
+        due("load", x.load(0), 8);
+        due("judge", x.judge(0), 1);
+        x.moles(20);
+        due("count(1)", x.count(1), 8);
     }
 
     private static void farArguments() {
