@@ -82,7 +82,7 @@ public final class SkinLands {
 
     public int go(int n) {
         if (!within(n, 1, MOST_YEARS_GONE)) return finding(BEYOND);
-        if (family.yearNow() + n > LATEST_YEAR) return finding(STATE);
+        if (!hasYearsLeft(n)) return finding(STATE);
         family.live(n);
         return family.knownCells();
     }
@@ -236,13 +236,13 @@ public final class SkinLands {
 
     public int moles(int n) {
         if (!within(n, 1, MOST_MOLES)) return finding(BEYOND);
-        if (family.yearNow() + 1 > LATEST_YEAR) return finding(STATE);
+        if (!hasYearsLeft(n)) return finding(STATE);
         for (int i = 0; i < n; i++) {
             int one = family.draw() % Family.MOST_KIN;
             int cell = family.draw() % Cells.AMOUNT;
             if (family.has(one)) family.flip(one, cell);
+            family.live(1);
         }
-        family.live(1);
         return family.knownCells();
     }
 
@@ -406,6 +406,10 @@ public final class SkinLands {
 
     private boolean areTwo(int a, int b) {
         return family.has(a) && family.has(b) && a != b;
+    }
+
+    private boolean hasYearsLeft(int n) {
+        return family.yearNow() + n <= LATEST_YEAR;
     }
 
     private boolean canBecome(int one, int what, int v) {

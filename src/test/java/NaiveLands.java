@@ -599,13 +599,13 @@ final class NaiveLands {
             }
             case "moles":
                 askIn(a[0], 1, 20);
-                ask(world.year < 99999, STATE);
+                ask(world.year + a[0] <= 99999, STATE);
                 for (int i = 0; i < a[0]; i++) {
                     int first = world.draw();
                     int second = world.draw();
                     if (first % 8 < world.kin.size()) world.flip(first % 8, second % 16);
+                    world.live(1);
                 }
-                world.live(1);
                 return bitsOf(world.known());
             case "odds": {
                 askIn(a[0], 0, 15);

@@ -4,6 +4,7 @@ public final class PromiseTest {
     private static final int FULL = Checks.FULL;
     private static final int KIND = Checks.KIND;
     private static final int NONE = Checks.NONE;
+    private static final int STATE = Checks.STATE;
     private static final int MISSING = Checks.MISSING;
     private static final int SIZE = Checks.SIZE;
     private static final int ALL = 65535;
@@ -90,6 +91,7 @@ public final class PromiseTest {
         tear();
         count();
         status();
+        latestYears();
         fullFamily();
         farArguments();
         checks.end();
@@ -763,7 +765,10 @@ public final class PromiseTest {
         due("no draw", x.count(6), 1);
         due("nobody", x.moles(20), 0);
         due("40 draws", x.count(6), drawnOften(1, 40));
-        due("one YEAR", x.count(0), 1);
+        due("20 YEARS", x.count(0), 20);
+        due("moles(1)", x.moles(1), 0);
+        due("2 draws more", x.count(6), drawnOften(1, 42));
+        due("one YEAR more", x.count(0), 21);
         begin("25 moles: what comes and goes");
         for (int k = 0; k < 3; k++) x.kin(2, k * 5000);
         x.seed(-12345);
@@ -779,10 +784,10 @@ public final class PromiseTest {
             int known = ALL & ~(marks[0] & marks[1] & marks[2]);
             due("moles(" + n + ")", x.moles(n), known);
             due("z", x.count(6), z);
-            due("YEAR", x.count(0), n);
+            due("YEAR", x.count(0), n * (n + 1) / 2);
             for (int k = 0; k < 3; k++) due("MARK", x.of(k, 2), marks[k]);
         }
-        due("AGE", x.of(0, 4), 20);
+        due("AGE", x.of(0, 4), 210);
         beginKin("25 moles: the YEAR comes behind the draws", 0, 0, 0, 0, 0, 0, 0, 0);
         z = drawnOften(1, 1);
         int one = (z >>> 8) % 8;
@@ -791,6 +796,55 @@ public final class PromiseTest {
         x.moles(1);
         due("it grew from the mole", Integer.bitCount(x.of(one, 2)), 2);
         due("the mole is there", x.of(one, 2) >> cell & 1, 1);
+        molesYearByYear();
+    }
+
+    /** A YEAR goes by behind each two draws, so that n times at once is n times one by one. */
+    private static void molesYearByYear() {
+        for (int n = 2; n <= 20; n++) {
+            beginKin("25 moles: a YEAR behind each two draws", 0, 1 << 5, 0, 1 << 15, 0, 0, 0, 0);
+            x.seed(n);
+            x.image();
+            int known = 0;
+            for (int i = 0; i < n; i++) known = x.moles(1);
+            int[] marks = new int[8];
+            for (int k = 0; k < 8; k++) marks[k] = x.of(k, 2);
+            int z = x.count(6);
+            x.undo();
+            due("moles(" + n + ")", x.moles(n), known);
+            for (int k = 0; k < 8; k++) due("MARK " + k + " behind moles(" + n + ")", x.of(k, 2), marks[k]);
+            due("z", x.count(6), z);
+            due("YEAR", x.count(0), n);
+            due("AGES", x.count(4), 8 * n);
+        }
+    }
+
+    /** No 512 calls come to these YEARS: what is looked at here is that the guard stands, behind more calls. */
+    private static void latestYears() {
+        beginKin("9, 25 the latest YEARS", 1);
+        for (int i = 0; i < 1666; i++) x.go(60);
+        due("YEAR", x.count(0), 99960);
+        due("go(40)", x.go(40), STATE);
+        due("YEAR", x.count(0), 99960);
+        x.go(19);
+        x.change(0, 0, 2);
+        x.image();
+        x.moles(20);
+        due("moles(20) to the latest YEAR", x.count(0), 99999);
+        x.undo();
+        x.go(1);
+        int z = x.count(6);
+        due("moles(20)", x.moles(20), STATE);
+        due("moles(21)", x.moles(21), BEYOND);
+        due("z", x.count(6), z);
+        due("YEAR", x.count(0), 99980);
+        x.go(19);
+        due("the latest YEAR", x.count(0), 99999);
+        due("go(1)", x.go(1), STATE);
+        due("moles(1)", x.moles(1), STATE);
+        due("go(0)", x.go(0), BEYOND);
+        due("known(100)", x.known(100), x.known(0));
+        due("STATE is counted", x.status(4), 4);
     }
 
     private static int drawnOften(int z, int times) {
