@@ -789,13 +789,16 @@ public final class PromiseTest {
         }
         due("AGE", x.of(0, 4), 210);
         beginKin("25 moles: the YEAR comes behind the draws", 0, 0, 0, 0, 0, 0, 0, 0);
-        z = drawnOften(1, 1);
-        int one = (z >>> 8) % 8;
-        z = drawnOften(z, 1);
-        int cell = (z >>> 8) % 16;
-        x.moles(1);
-        due("it grew from the mole", Integer.bitCount(x.of(one, 2)), 2);
-        due("the mole is there", x.of(one, 2) >> cell & 1, 1);
+        // From z 1 on the draws tell KIN 6 and CELL 0, then KIN 4 and CELL 11.
+        int[] oneYear = {set(0), set(2), set(4), set(6), set(8), set(10), set(0, 1), set(14)};
+        int[] twoYears = {set(0, 1), set(1, 2), set(0, 4), set(2, 6), set(4, 8, 11), set(6, 10), set(0, 1, 2),
+            set(10, 14)};
+        x.image();
+        due("moles(1)", x.moles(1), set(0, 1, 2, 4, 6, 8, 10, 14));
+        for (int k = 0; k < 8; k++) due("MARK " + k + " behind moles(1)", x.of(k, 2), oneYear[k]);
+        x.undo();
+        due("moles(2)", x.moles(2), set(0, 1, 2, 4, 6, 8, 10, 11, 14));
+        for (int k = 0; k < 8; k++) due("MARK " + k + " behind moles(2)", x.of(k, 2), twoYears[k]);
         molesYearByYear();
     }
 
