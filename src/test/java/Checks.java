@@ -1,3 +1,6 @@
+import java.util.Set;
+import java.util.TreeSet;
+
 /** Counts and prints the answers that are not as due. */
 final class Checks {
     static final int BEYOND = -1000001;
@@ -9,6 +12,7 @@ final class Checks {
     static final int SIZE = -1000007;
 
     private final String name;
+    private final Set<String> wrongParts = new TreeSet<>();
     private String part = "";
     private int asked;
     private int wrong;
@@ -25,6 +29,7 @@ final class Checks {
         asked++;
         if (got == want) return;
         wrong++;
+        wrongParts.add(part);
         if (wrong <= 50) {
             System.out.println(part + ": " + call + " answered " + got + ", due is " + want);
         }
@@ -36,6 +41,11 @@ final class Checks {
 
     int wrong() {
         return wrong;
+    }
+
+    /** The titles of the parts that had a wrong answer. */
+    Set<String> wrongParts() {
+        return wrongParts;
     }
 
     void end() {

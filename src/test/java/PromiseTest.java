@@ -91,7 +91,6 @@ public final class PromiseTest {
         tear();
         count();
         status();
-        latestYears();
         fullFamily();
         farArguments();
         checks.end();
@@ -822,34 +821,6 @@ public final class PromiseTest {
         }
     }
 
-    /** No 512 calls come to these YEARS: what is looked at here is that the guard stands, behind more calls. */
-    private static void latestYears() {
-        beginKin("9, 25 the latest YEARS", 1);
-        for (int i = 0; i < 1666; i++) x.go(60);
-        due("YEAR", x.count(0), 99960);
-        due("go(40)", x.go(40), STATE);
-        due("YEAR", x.count(0), 99960);
-        x.go(19);
-        x.change(0, 0, 2);
-        x.image();
-        x.moles(20);
-        due("moles(20) to the latest YEAR", x.count(0), 99999);
-        x.undo();
-        x.go(1);
-        int z = x.count(6);
-        due("moles(20)", x.moles(20), STATE);
-        due("moles(21)", x.moles(21), BEYOND);
-        due("z", x.count(6), z);
-        due("YEAR", x.count(0), 99980);
-        x.go(19);
-        due("the latest YEAR", x.count(0), 99999);
-        due("go(1)", x.go(1), STATE);
-        due("moles(1)", x.moles(1), STATE);
-        due("go(0)", x.go(0), BEYOND);
-        due("known(100)", x.known(100), x.known(0));
-        due("STATE is counted", x.status(4), 4);
-    }
-
     private static int drawnOften(int z, int times) {
         int drawn = z;
         for (int i = 0; i < times; i++) drawn = drawn * 1103515245 + 12345;
@@ -971,75 +942,82 @@ public final class PromiseTest {
         due("AGE of the other one", x.of(0, 4), 5);
     }
 
-    private static void textFaults() {
-        begin("30 text: FAULTS");
-        read("", -1);
-        read("   ", -4);
-        read("kin;", -5);
-        read("kin ; ", -7);
-        read(";", -1);
-        read("kin;;kin", -5);
-        read("  aunt", -3);
-        read("kins", -1);
-        read("kinz", -1);
-        read("akin", -1);
-        read("xin", -1);
-        read("kix", -1);
-        read("xousin", -1);
-        read("xncle", -1);
-        read("xhild", -1);
-        read("xaby", -1);
-        read("xdopted", -1);
-        read("xailor", -1);
-        read("kin xf 0", -5);
-        read("kin xark 0", -5);
-        read("kin xurn 0", -5);
-        read("kin xp", -5);
-        read("kin;xged 0 0", -5);
-        read("kin{", -4);
-        read("kin`", -4);
-        read("kin mark 1/", -11);
-        read("kin mark 1:", -11);
-        read("kin turn", -9);
-        read("kin turn up", -10);
-        read("Kin", -1);
-        read("kin\tup", -4);
-        read("kin.", -4);
-        read("kin up\u00e9", -7);
-        read("7", -1);
-        read("kin 0", -5);
-        read("kin of", -7);
-        read("kin of ", -8);
-        read("kin of 0", -8);
-        read("kin of kin", -8);
-        read("kin;kin of 1", -12);
-        read("kin;kin of 99999", -12);
-        read("kin mark", -9);
-        read("kin mark 65536", -10);
-        read("kin mark 100000", -10);
-        read("kin mark 4294967296", -10);
-        read("kin mark -1", -10);
-        read("kin turn 4", -10);
-        read("kin turn 3 4", -12);
-        read("kin turn 1 mark 1", -12);
-        read("kin up mark 1", -8);
-        read("kin mark 1 of 0", -12);
-        read("kin mark 1 mark 1", -12);
-        read("kin up up", -8);
-        read("kin kin", -5);
-        read("aged", -5);
-        read("aged 0 0", -6);
-        read("kin;aged 1 0", -10);
-        read("kin;aged 0", -11);
-        read("kin;aged 0 1000", -12);
-        read("kin;aged 0;5", -11);
-        read("kin;aged 0 5 up", -14);
-        read("kin;aged up", -10);
-        read("of 0", -1);
-        read("mark 1", -1);
-        read("up", -1);
+    /** A TEXT with a FAULT, on a new land, as all of them together would be more calls than one is good for. */
+    private static void refused(String text, int want) {
+        x = new SkinLands();
+        read(text, want);
         due("nobody came", x.count(1), 0);
         due("no finding", x.status(-1), 0);
+    }
+
+    private static void textFaults() {
+        begin("30 text: FAULTS");
+        refused("", -1);
+        refused("   ", -4);
+        refused("kin;", -5);
+        refused("kin ; ", -7);
+        refused(";", -1);
+        refused("kin;;kin", -5);
+        refused("  aunt", -3);
+        refused("kins", -1);
+        refused("kinz", -1);
+        refused("akin", -1);
+        refused("xin", -1);
+        refused("kix", -1);
+        refused("xousin", -1);
+        refused("xncle", -1);
+        refused("xhild", -1);
+        refused("xaby", -1);
+        refused("xdopted", -1);
+        refused("xailor", -1);
+        refused("kin xf 0", -5);
+        refused("kin xark 0", -5);
+        refused("kin xurn 0", -5);
+        refused("kin xp", -5);
+        refused("kin;xged 0 0", -5);
+        refused("kin{", -4);
+        refused("kin`", -4);
+        refused("kin mark 1/", -11);
+        refused("kin mark 1:", -11);
+        refused("kin turn", -9);
+        refused("kin turn up", -10);
+        refused("Kin", -1);
+        refused("kin\tup", -4);
+        refused("kin.", -4);
+        refused("kin up\u00e9", -7);
+        refused("7", -1);
+        refused("kin 0", -5);
+        refused("kin of", -7);
+        refused("kin of ", -8);
+        refused("kin of 0", -8);
+        refused("kin of kin", -8);
+        refused("kin;kin of 1", -12);
+        refused("kin;kin of 99999", -12);
+        refused("kin mark", -9);
+        refused("kin mark 65536", -10);
+        refused("kin mark 100000", -10);
+        refused("kin mark 4294967296", -10);
+        refused("kin mark -1", -10);
+        refused("kin turn 4", -10);
+        refused("kin turn 3 4", -12);
+        refused("kin turn 1 mark 1", -12);
+        refused("kin up mark 1", -8);
+        refused("kin mark 1 of 0", -12);
+        refused("kin mark 1 mark 1", -12);
+        refused("kin up up", -8);
+        refused("kin kin", -5);
+        refused("aged", -5);
+        refused("aged 0 0", -6);
+        refused("kin;aged 1 0", -10);
+        refused("kin;aged 0", -11);
+        refused("kin;aged 0 1000", -12);
+        refused("kin;aged 0;5", -11);
+        refused("kin;aged 0 5 up", -14);
+        refused("kin;aged up", -10);
+        refused("of 0", -1);
+        refused("mark 1", -1);
+        refused("up", -1);
+        x = new SkinLands();
         read("kin;kin;kin;kin;kin;kin;kin;kin", 8);
         read("aged 3 4;  kin of 99", -12);
         due("nothing changed", x.of(3, 4), 0);
